@@ -461,13 +461,11 @@ public final class WorkBoard {
             Arrays.fill(doneOn, NONE);
             Arrays.fill(reasonDays, 0);
             for (int c = 0; c < MAX_CARDS; c++) {
-                worked[c] = false;
                 beenBack[c] = false;
             }
             pulledCount = 0;
             day = NONE;
             lastActive = NONE;
-            active = false;
             resting = false;
         }
 
@@ -618,9 +616,7 @@ public final class WorkBoard {
         }
 
         private void runNextDay() {
-            day++;
-            active = false;
-            letCome();
+            beginDay();
             for (int k = cards.columns - 1; k >= 0; k--) {
                 pullInto(k, true, rules.lane[k]);
                 pullInto(k, false, rules.limit[k]);
@@ -634,7 +630,9 @@ public final class WorkBoard {
             resting = !active && day >= cards.lastComing();
         }
 
-        private void letCome() {
+        private void beginDay() {
+            day++;
+            active = false;
             for (int c = 0; c < cards.count; c++) {
                 worked[c] = false;
                 if (cards.day[c] == day) {

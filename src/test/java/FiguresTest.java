@@ -9,6 +9,7 @@ public final class FiguresTest {
         differByWorkLeft();
         differLate();
         differNever();
+        differAfterOtherQuestions();
         promise();
         promiseOfThoseDone();
         promiseRefused();
@@ -75,6 +76,22 @@ public final class FiguresTest {
         b.other(2, 0, 0);
         Due.same("15 nobody is worked in either", b.differ(), NONE);
         Due.same("15 and the runs tell as before", b.length(1, true), 0);
+    }
+
+    private static void differAfterOtherQuestions() {
+        WorkBoard b = new WorkBoard();
+        b.card(2, false);
+        b.size(0, 0, 3);
+        b.other(3, 0, 2);
+        b.length(0, false);
+        b.length(0, true);
+        Due.same("15 after the runs were asked to their ends", b.differ(), 2);
+        Due.same("15 again", b.differ(), 2);
+        b.at(0, 50, true);
+        b.at(0, 3, false);
+        Due.same("15 and again", b.differ(), 2);
+        Due.same("14 the run goes on to its end", b.length(0, false), 5);
+        Due.same("14 the other one, too", b.length(0, true), 4);
     }
 
     private static void promise() {

@@ -6,6 +6,7 @@ public final class RunTest {
     public static void main(String[] args) {
         pullsFromTheLastColumn();
         pullsInOrder();
+        pullsManyByDay();
         throughCardsHoldTheirPlace();
         backFreesItsPlaceTheNextDay();
         backAmongThoseAhead();
@@ -26,6 +27,7 @@ public final class RunTest {
         sumOfAges();
         bothRunsAreTold();
         refused();
+        fullBoard();
         longestRunEnds();
         Due.end("RunTest");
     }
@@ -67,6 +69,23 @@ public final class RunTest {
         Due.same("10 urgent by day", b.told(urgent, 0, false), 1);
         Due.same("10 urgent in a lane of their own", b.told(urgentLate, 0, false), 2);
         Due.same("10 AGE from the day of coming", b.told(late, 1, false), 2);
+    }
+
+    private static void pullsManyByDay() {
+        WorkBoard b = board(1, 1, 0, 1);
+        for (int c = 0; c < 16; c++) {
+            b.card(15 - c, false);
+            b.size(c, 0, 2);
+        }
+        for (int c = 0; c < 16; c++) {
+            Due.same("10 by day: " + c, b.told(c, 0, false), 2 * (15 - c) + 1);
+        }
+        for (int c = 0; c < 16; c++) {
+            b.size(c, 0, 0);
+        }
+        for (int c = 0; c < 16; c++) {
+            Due.same("10 on its day: " + c, b.told(c, 0, false), 15 - c);
+        }
     }
 
     private static void throughCardsHoldTheirPlace() {
@@ -420,6 +439,28 @@ public final class RunTest {
         Due.same("12 c 1", b.reason(1, 0, false), NONE);
         Due.same("14 what 3", b.length(3, false), NONE);
         Due.same("13 day 3000", b.counts(3000, 0, false), 1);
+    }
+
+    private static void fullBoard() {
+        WorkBoard b = board(1, 1, 0, 1);
+        for (int c = 0; c < 16; c++) {
+            b.card(0, false);
+        }
+        Due.same("14 sum", b.length(2, false), 16 * 17 / 2);
+        Due.same("13 DONE", b.counts(15, 1, false), 16);
+        Due.same("13 there on it", b.counts(15, 3, false), 1);
+        Due.same("13 there behind it", b.counts(0, 2, false), 15);
+        Due.same("13 in column 0", b.counts(0, 10, false), 0);
+        Due.same("12 FULL", b.reason(15, 14, false), 3);
+        Due.same("12 WORKED", b.reason(15, 15, false), 1);
+        Due.same("16 the oldest", b.promise(100, false), 16);
+        Due.same("16 half of them", b.promise(50, false), 8);
+        Due.same("17 hands bind", b.best(2), 16 * 17 / 2);
+        Due.same("18 so one is enough", b.bestLimit(2, 0), 1);
+        Due.same("19 nobody is urgent", b.cost(), 0);
+        Due.same("15 never", b.differ(), NONE);
+        b.other(0, 0, 2);
+        Due.same("15 two go in", b.differ(), 0);
     }
 
     /** The most work that the document allows: a run is at rest long before day 3000. */
